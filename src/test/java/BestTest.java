@@ -130,6 +130,8 @@ public final class BestTest {
         Due.due(29, "worn(1)", x.worn(1), 1 + 2 + 4);
         x.fresh(2, 0, 7);
         Due.due(29, "worn(2)", x.worn(2), 1 + 4);
+        x.mind(0, 0, 2048);
+        Due.due(29, "worn(2), not the first head", x.worn(2), 4);
         Due.due(29, "worn(3)", x.worn(3), Due.BEYOND);
         Due.due(29, "worn(-1)", x.worn(-1), Due.BEYOND);
     }

@@ -121,6 +121,9 @@ public final class HatsHeadsTest {
         Due.due(7, "of(0, 0)", x.of(0, 0), 4);
         Due.due(7, "of(0, 1)", x.of(0, 1), 7);
         Due.due(7, "of(0, 2)", x.of(0, 2), 8);
+        Due.due(7, "turn(0, 5)", x.turn(0, 5), 4);
+        Due.due(7, "turn(0, 0)", x.turn(0, 0), 5);
+        Due.due(7, "turn(0, 4)", x.turn(0, 4), 0);
         Due.due(7, "turn(0, 6)", x.turn(0, 6), Due.BEYOND);
         Due.due(7, "turn(0, -1)", x.turn(0, -1), Due.BEYOND);
         Due.due(7, "turn(1, 0)", x.turn(1, 0), Due.BEYOND);
@@ -176,6 +179,8 @@ public final class HatsHeadsTest {
         Due.due(11, "mind(0, 0, 4095)", x.mind(0, 0, 4095), 3);
         Due.due(11, "mind(0, 0, 0)", x.mind(0, 0, 0), 4095);
         Due.due(11, "mind(0, 1, 1)", x.mind(0, 1, 1), 0);
+        Due.due(11, "about(0, 1)", x.about(0, 1), 1);
+        Due.due(11, "about(0, 2)", x.about(0, 2), 0);
         Due.due(11, "mind(0, 1, 0)", x.mind(0, 1, 0), 1);
         Due.due(11, "mind(0, 2, 9999)", x.mind(0, 2, 9999), 0);
         Due.due(11, "mind(0, 2, 7)", x.mind(0, 2, 7), 9999);

@@ -2,6 +2,7 @@
 public final class ImagesTest {
     public static void main(String[] args) {
         imageAndUndo();
+        undoneAreGone();
         latestStays();
         tear();
         count();
@@ -45,6 +46,33 @@ public final class ImagesTest {
         Due.due(40, "write(1, 0, 0), sheets not", x.write(1, 0, 0), 0);
         Due.due(41, "hat(3)", x.hat(3), 1);
         Due.due(41, "of(1, 3), a new one", x.of(1, 3), 0);
+    }
+
+    /** What undo() takes away is gone for every call, and what is new in its place begins anew. */
+    private static void undoneAreGone() {
+        HeadHats x = Due.shopOf("hat holds 1;head has 2");
+        x.image();
+        Due.read(x, "mitre holds 4095 pledge 50;head has 4095 bald");
+        x.mind(1, 2, 77);
+        x.undo();
+        Due.due(41, "best(0)", x.best(0), 0);
+        Due.due(41, "row(0, 4095)", x.row(0, 4095), Due.NONE);
+        Due.due(41, "rows(0, 3, 1)", x.rows(0, 3, 1), 1);
+        Due.due(41, "worn(0)", x.worn(0), 0);
+        Due.due(41, "now(1)", x.now(1), 9);
+        Due.due(41, "now(2)", x.now(2), 1);
+        Due.due(41, "now(3)", x.now(3), 2);
+        Due.due(41, "now(5)", x.now(5), 0);
+        Due.due(41, "count(3)", x.count(3), 5);
+        Due.due(41, "of(1, 0)", x.of(1, 0), Due.BEYOND);
+        Due.due(41, "about(1, 0)", x.about(1, 0), Due.BEYOND);
+        Due.due(2, "hat(1)", x.hat(1), 1);
+        Due.due(2, "of(1, 2)", x.of(1, 2), 5);
+        Due.due(2, "of(1, 3)", x.of(1, 3), 0);
+        Due.due(9, "head(1)", x.head(1), 1);
+        Due.due(9, "about(1, 0)", x.about(1, 0), 1);
+        Due.due(9, "about(1, 1)", x.about(1, 1), 0);
+        Due.due(9, "about(1, 2)", x.about(1, 2), 0);
     }
 
     private static void latestStays() {

@@ -94,6 +94,9 @@ public final class TextTest {
         fault("hat;;hat", 4);
         fault("hat hat", 4);
         fault("hats", 0);
+        fault("hatz", 0);
+        fault("hata", 0);
+        fault("cat", 0);
         fault("ha t", 0);
         fault("Hat", 0);
         fault("7", 0);

@@ -53,6 +53,11 @@ public final class TriedOnTest {
         Due.due(13, "takes(4, 0) of one firm", x.takes(4, 0), 17);
         x.fresh(4, 4, 2);
         Due.due(13, "takes(4, 0) of none firm", x.takes(4, 0), 0);
+        x.fresh(5, 0, 1);
+        x.fresh(5, 11, 1);
+        Due.due(13, "takes(5, 0), the last thought", x.takes(5, 0), 2048);
+        x.mind(0, 0, 4094);
+        Due.due(13, "takes(5, 0), the first thought", x.takes(5, 0), 1);
         Due.due(13, "takes(6, 0)", x.takes(6, 0), Due.BEYOND);
         Due.due(13, "takes(-1, 0)", x.takes(-1, 0), Due.BEYOND);
         Due.due(13, "takes(0, 4)", x.takes(0, 4), Due.BEYOND);
@@ -202,13 +207,19 @@ public final class TriedOnTest {
         Due.due(19, "of(3, 1), faded to two first", x.of(3, 1), 6);
         x.weeks(1);
         Due.due(19, "of(0, 1), of eleven the 6th", x.of(0, 1), 4095 - 32 - 64);
+        HeadHats y = Due.shopOf("hat;moths");
+        for (int t = 2; t <= 8; t++) {
+            y.fresh(0, t, 2);
+        }
+        y.weeks(1);
+        Due.due(19, "of(0, 1), all of fresh 1", y.of(0, 1), 508 - 32);
     }
 
     private static void now() {
-        HeadHats x = Due.shopOf("hat holds 5;hat holds 6;head has 8;head has 24;moths");
+        HeadHats x = Due.shopOf("hat holds 5;hat holds 6;head has 40;head has 24;moths");
         x.mind(0, 2, 9999);
         x.mind(1, 2, 9999);
-        int[] due = {0, 36, 7, 24, 1, 19998};
+        int[] due = {0, 36, 7, 56, 1, 19998};
         for (int what = 0; what < 6; what++) {
             Due.due(20, "now(" + what + ")", x.now(what), due[what]);
         }
@@ -260,6 +271,7 @@ public final class TriedOnTest {
         HeadHats x = Due.shopOf("felt holds 3;straw holds 1;hat holds 3;hat holds 7");
         Due.due(23, "alike(0, 2)", x.alike(0, 2), 0);
         Due.due(23, "alike(0, 1)", x.alike(0, 1), 18);
+        Due.due(23, "alike(1, 0)", x.alike(1, 0), 18);
         Due.due(23, "alike(1, 2)", x.alike(1, 2), 9);
         x.moths(1);
         x.fresh(2, 1, 0);
