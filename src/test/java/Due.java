@@ -40,6 +40,7 @@ final class Due {
     }
 
     static void feed(HeadHats x, String text) {
+        dueTrue("a text that the tape has no room for: " + text, x.count(1) + text.length() <= 120);
         int i = 0;
         while (i < text.length()) {
             int n = Math.min(4, text.length() - i);
