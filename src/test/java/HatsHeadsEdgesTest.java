@@ -157,7 +157,8 @@ public final class HatsHeadsEdgesTest {
         Edge e = Edge.promise(3, "BEYOND.");
         HeadHats x = Due.shopOf("hat holds 4095;hat holds 4095");
         e.beyond("fresh(2, 0, 0)", x.fresh(2, 0, 0)).beyond("fresh(-1, 0, 0)", x.fresh(-1, 0, 0));
-        e.beyond("fresh(8, 0, 0)", x.fresh(8, 0, 0)).beyond("fresh(MIN, 0, 0)", x.fresh(MIN, 0, 0)).beyond("fresh(MAX, 0, 0)", x.fresh(MAX, 0, 0));
+        e.beyond("fresh(8, 0, 0)", x.fresh(8, 0, 0)).beyond("fresh(MIN, 0, 0)", x.fresh(MIN, 0, 0));
+        e.beyond("fresh(MAX, 0, 0)", x.fresh(MAX, 0, 0));
         e.beyond("fresh(0, 12, 0)", x.fresh(0, 12, 0)).beyond("fresh(0, -1, 0)", x.fresh(0, -1, 0));
         e.beyond("fresh(0, MIN, 0)", x.fresh(0, MIN, 0)).beyond("fresh(0, MAX, 0)", x.fresh(0, MAX, 0));
         e.beyond("fresh(0, 0, 10)", x.fresh(0, 0, 10)).beyond("fresh(0, 0, -1)", x.fresh(0, 0, -1));
@@ -208,8 +209,10 @@ public final class HatsHeadsEdgesTest {
     private static void ofBeyond() {
         Edge e = Edge.promise(4, "BEYOND.");
         HeadHats x = Due.shopOf("hat;hat");
-        e.beyond("of(2, 0)", x.of(2, 0)).beyond("of(-1, 0)", x.of(-1, 0)).beyond("of(MIN, 0)", x.of(MIN, 0)).beyond("of(MAX, 0)", x.of(MAX, 0));
-        e.beyond("of(0, 5)", x.of(0, 5)).beyond("of(0, -1)", x.of(0, -1)).beyond("of(0, MIN)", x.of(0, MIN)).beyond("of(0, MAX)", x.of(0, MAX));
+        e.beyond("of(2, 0)", x.of(2, 0)).beyond("of(-1, 0)", x.of(-1, 0)).beyond("of(MIN, 0)", x.of(MIN, 0));
+        e.beyond("of(MAX, 0)", x.of(MAX, 0));
+        e.beyond("of(0, 5)", x.of(0, 5)).beyond("of(0, -1)", x.of(0, -1)).beyond("of(0, MIN)", x.of(0, MIN));
+        e.beyond("of(0, MAX)", x.of(0, MAX));
         e.due("of(1, 4), the last of both", x.of(1, 4), 1);
     }
 
@@ -225,22 +228,27 @@ public final class HatsHeadsEdgesTest {
     private static void toldBeyond() {
         Edge e = Edge.promise(5, "BEYOND.");
         HeadHats x = Due.shopOf("hat;hat");
-        e.beyond("told(2, 0)", x.told(2, 0)).beyond("told(-1, 0)", x.told(-1, 0)).beyond("told(MIN, 0)", x.told(MIN, 0)).beyond("told(MAX, 0)", x.told(MAX, 0));
-        e.beyond("told(0, 12)", x.told(0, 12)).beyond("told(0, -1)", x.told(0, -1)).beyond("told(0, MIN)", x.told(0, MIN)).beyond("told(0, MAX)", x.told(0, MAX));
+        e.beyond("told(2, 0)", x.told(2, 0)).beyond("told(-1, 0)", x.told(-1, 0)).beyond("told(MIN, 0)", x.told(MIN, 0));
+        e.beyond("told(MAX, 0)", x.told(MAX, 0));
+        e.beyond("told(0, 12)", x.told(0, 12)).beyond("told(0, -1)", x.told(0, -1)).beyond("told(0, MIN)", x.told(0, MIN));
+        e.beyond("told(0, MAX)", x.told(0, MAX));
     }
 
     private static void pledgeOfAll() {
         Edge e = Edge.term(6, "a PLEDGE (0 to 99 pennies; 5 at first)");
         HeadHats x = full();
-        e.due("pledge(7, 0)", x.pledge(7, 0), 5).due("pledge(7, 99)", x.pledge(7, 99), 0).due("pledge(7, 99), as it is", x.pledge(7, 99), 99);
+        e.due("pledge(7, 0)", x.pledge(7, 0), 5).due("pledge(7, 99)", x.pledge(7, 99), 0);
+        e.due("pledge(7, 99), as it is", x.pledge(7, 99), 99);
         e.due("of(7, 2)", x.of(7, 2), 99).due("of(6, 2)", x.of(6, 2), 5);
     }
 
     private static void pledgeBeyond() {
         Edge e = Edge.promise(6, "BEYOND.");
         HeadHats x = Due.shopOf("hat;hat");
-        e.beyond("pledge(0, 100)", x.pledge(0, 100)).beyond("pledge(0, -1)", x.pledge(0, -1)).beyond("pledge(0, MIN)", x.pledge(0, MIN)).beyond("pledge(0, MAX)", x.pledge(0, MAX));
-        e.beyond("pledge(2, 0)", x.pledge(2, 0)).beyond("pledge(-1, 0)", x.pledge(-1, 0)).beyond("pledge(MIN, 0)", x.pledge(MIN, 0)).beyond("pledge(MAX, 0)", x.pledge(MAX, 0));
+        e.beyond("pledge(0, 100)", x.pledge(0, 100)).beyond("pledge(0, -1)", x.pledge(0, -1));
+        e.beyond("pledge(0, MIN)", x.pledge(0, MIN)).beyond("pledge(0, MAX)", x.pledge(0, MAX));
+        e.beyond("pledge(2, 0)", x.pledge(2, 0)).beyond("pledge(-1, 0)", x.pledge(-1, 0));
+        e.beyond("pledge(MIN, 0)", x.pledge(MIN, 0)).beyond("pledge(MAX, 0)", x.pledge(MAX, 0));
         e.due("count(3), nothing changed", x.count(3), 10);
     }
 
@@ -253,22 +261,27 @@ public final class HatsHeadsEdgesTest {
                 e.due("turn(0, " + to + ")", x.turn(0, to), from).due("of(0, 0)", x.of(0, 0), to);
             }
         }
-        e.due("of(0, 2), the PLEDGE stays", x.of(0, 2), 99).due("of(0, 3), FRESH stays", x.of(0, 3), 108).due("of(1, 0)", x.of(1, 0), 0);
+        e.due("of(0, 2), the PLEDGE stays", x.of(0, 2), 99).due("of(0, 3), FRESH stays", x.of(0, 3), 108);
+        e.due("of(1, 0)", x.of(1, 0), 0);
     }
 
     private static void turnBeyond() {
         Edge e = Edge.promise(7, "BEYOND.");
         HeadHats x = Due.shopOf("straw;straw");
-        e.beyond("turn(0, 6)", x.turn(0, 6)).beyond("turn(0, -1)", x.turn(0, -1)).beyond("turn(0, MIN)", x.turn(0, MIN)).beyond("turn(0, MAX)", x.turn(0, MAX));
-        e.beyond("turn(2, 0)", x.turn(2, 0)).beyond("turn(-1, 0)", x.turn(-1, 0)).beyond("turn(MIN, 0)", x.turn(MIN, 0)).beyond("turn(MAX, 0)", x.turn(MAX, 0));
+        e.beyond("turn(0, 6)", x.turn(0, 6)).beyond("turn(0, -1)", x.turn(0, -1)).beyond("turn(0, MIN)", x.turn(0, MIN));
+        e.beyond("turn(0, MAX)", x.turn(0, MAX));
+        e.beyond("turn(2, 0)", x.turn(2, 0)).beyond("turn(-1, 0)", x.turn(-1, 0)).beyond("turn(MIN, 0)", x.turn(MIN, 0));
+        e.beyond("turn(MAX, 0)", x.turn(MAX, 0));
         e.due("of(0, 0)", x.of(0, 0), 2).due("of(1, 0)", x.of(1, 0), 2);
     }
 
     private static void asBeyond() {
         Edge e = Edge.promise(8, "BEYOND: no such one, kind.");
         HeadHats x = Due.shopOf("hat;brim");
-        e.beyond("as(2, 0)", x.as(2, 0)).beyond("as(-1, 0)", x.as(-1, 0)).beyond("as(MIN, 0)", x.as(MIN, 0)).beyond("as(MAX, 0)", x.as(MAX, 0));
-        e.beyond("as(0, 6)", x.as(0, 6)).beyond("as(0, -1)", x.as(0, -1)).beyond("as(0, MIN)", x.as(0, MIN)).beyond("as(0, MAX)", x.as(0, MAX));
+        e.beyond("as(2, 0)", x.as(2, 0)).beyond("as(-1, 0)", x.as(-1, 0)).beyond("as(MIN, 0)", x.as(MIN, 0));
+        e.beyond("as(MAX, 0)", x.as(MAX, 0));
+        e.beyond("as(0, 6)", x.as(0, 6)).beyond("as(0, -1)", x.as(0, -1)).beyond("as(0, MIN)", x.as(0, MIN));
+        e.beyond("as(0, MAX)", x.as(0, MAX));
         e.beyond("as(2, 5), no KIND of none", x.as(2, 5)).due("status(2)", x.status(2), 0);
     }
 
@@ -304,7 +317,8 @@ public final class HatsHeadsEdgesTest {
     private static void headSetBeyond() {
         Edge e = Edge.promise(9, "BEYOND.");
         HeadHats x = new HeadHats();
-        e.beyond("head(4096)", x.head(4096)).beyond("head(-1)", x.head(-1)).beyond("head(MIN)", x.head(MIN)).beyond("head(MAX)", x.head(MAX));
+        e.beyond("head(4096)", x.head(4096)).beyond("head(-1)", x.head(-1)).beyond("head(MIN)", x.head(MIN));
+        e.beyond("head(MAX)", x.head(MAX));
         e.due("count(2)", x.count(2), 0).due("head(4095)", x.head(4095), 0).due("head(0)", x.head(0), 1);
     }
 
@@ -344,8 +358,10 @@ public final class HatsHeadsEdgesTest {
     private static void aboutBeyond() {
         Edge e = Edge.promise(10, "BEYOND.");
         HeadHats x = Due.shopOf("head;head;hat;hat;hat");
-        e.beyond("about(2, 0)", x.about(2, 0)).beyond("about(-1, 0)", x.about(-1, 0)).beyond("about(MIN, 0)", x.about(MIN, 0)).beyond("about(MAX, 0)", x.about(MAX, 0));
-        e.beyond("about(0, 3)", x.about(0, 3)).beyond("about(0, -1)", x.about(0, -1)).beyond("about(0, MIN)", x.about(0, MIN)).beyond("about(0, MAX)", x.about(0, MAX));
+        e.beyond("about(2, 0)", x.about(2, 0)).beyond("about(-1, 0)", x.about(-1, 0)).beyond("about(MIN, 0)", x.about(MIN, 0));
+        e.beyond("about(MAX, 0)", x.about(MAX, 0));
+        e.beyond("about(0, 3)", x.about(0, 3)).beyond("about(0, -1)", x.about(0, -1)).beyond("about(0, MIN)", x.about(0, MIN));
+        e.beyond("about(0, MAX)", x.about(0, MAX));
     }
 
     private static void mindHas() {
@@ -370,7 +386,8 @@ public final class HatsHeadsEdgesTest {
     private static void mindPennies() {
         Edge e = Edge.term(11, "PENNIES (0 at first, held to 0 and 9999).");
         HeadHats x = Due.shopOf("head;head");
-        e.due("mind(1, 2, 9999)", x.mind(1, 2, 9999), 0).due("mind(1, 2, 0)", x.mind(1, 2, 0), 9999).due("mind(1, 2, 8)", x.mind(1, 2, 8), 0);
+        e.due("mind(1, 2, 9999)", x.mind(1, 2, 9999), 0).due("mind(1, 2, 0)", x.mind(1, 2, 0), 9999);
+        e.due("mind(1, 2, 8)", x.mind(1, 2, 8), 0);
         e.beyond("mind(1, 2, 10000)", x.mind(1, 2, 10000)).beyond("mind(1, 2, -1)", x.mind(1, 2, -1));
         e.beyond("mind(1, 2, MIN)", x.mind(1, 2, MIN)).beyond("mind(1, 2, MAX)", x.mind(1, 2, MAX));
         e.due("about(1, 2)", x.about(1, 2), 8).due("about(0, 2)", x.about(0, 2), 0);
@@ -379,14 +396,17 @@ public final class HatsHeadsEdgesTest {
     private static void mindBeyond() {
         Edge e = Edge.promise(11, "BEYOND.");
         HeadHats x = Due.shopOf("head;head");
-        e.beyond("mind(2, 0, 0)", x.mind(2, 0, 0)).beyond("mind(-1, 0, 0)", x.mind(-1, 0, 0)).beyond("mind(MIN, 0, 0)", x.mind(MIN, 0, 0)).beyond("mind(MAX, 0, 0)", x.mind(MAX, 0, 0));
-        e.beyond("mind(0, 3, 0)", x.mind(0, 3, 0)).beyond("mind(0, -1, 0)", x.mind(0, -1, 0)).beyond("mind(0, MIN, 0)", x.mind(0, MIN, 0)).beyond("mind(0, MAX, 0)", x.mind(0, MAX, 0));
+        e.beyond("mind(2, 0, 0)", x.mind(2, 0, 0)).beyond("mind(-1, 0, 0)", x.mind(-1, 0, 0));
+        e.beyond("mind(MIN, 0, 0)", x.mind(MIN, 0, 0)).beyond("mind(MAX, 0, 0)", x.mind(MAX, 0, 0));
+        e.beyond("mind(0, 3, 0)", x.mind(0, 3, 0)).beyond("mind(0, -1, 0)", x.mind(0, -1, 0));
+        e.beyond("mind(0, MIN, 0)", x.mind(0, MIN, 0)).beyond("mind(0, MAX, 0)", x.mind(0, MAX, 0));
     }
 
     private static void mothsBoth() {
         Edge e = Edge.promise(12, "MOTHS become v (0, 1): what they were.");
         HeadHats x = new HeadHats();
-        e.due("moths(0)", x.moths(0), 0).due("moths(1)", x.moths(1), 0).due("moths(1)", x.moths(1), 1).due("moths(0)", x.moths(0), 1);
+        e.due("moths(0)", x.moths(0), 0).due("moths(1)", x.moths(1), 0).due("moths(1)", x.moths(1), 1);
+        e.due("moths(0)", x.moths(0), 1);
         e.due("moths(0)", x.moths(0), 0);
     }
 
@@ -394,7 +414,8 @@ public final class HatsHeadsEdgesTest {
         Edge e = Edge.promise(12, "BEYOND.");
         HeadHats x = new HeadHats();
         x.moths(1);
-        e.beyond("moths(2)", x.moths(2)).beyond("moths(-1)", x.moths(-1)).beyond("moths(MIN)", x.moths(MIN)).beyond("moths(MAX)", x.moths(MAX));
+        e.beyond("moths(2)", x.moths(2)).beyond("moths(-1)", x.moths(-1)).beyond("moths(MIN)", x.moths(MIN));
+        e.beyond("moths(MAX)", x.moths(MAX));
         e.due("now(4)", x.now(4), 1);
     }
 }

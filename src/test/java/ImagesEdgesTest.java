@@ -48,9 +48,12 @@ public final class ImagesEdgesTest {
         x.weeks(60);
         e.due("undo()", x.undo(), 2).due("count(0)", x.count(0), 2).due("count(2)", x.count(2), 2).due("count(3)", x.count(3), 99);
         e.due("now(0)", x.now(0), 1).due("now(4)", x.now(4), 1).due("of(0, 0)", x.of(0, 0), 4).due("of(1, 0)", x.of(1, 0), 5);
-        e.due("of(0, 2)", x.of(0, 2), 99).due("told(0, 0)", x.told(0, 0), 8).due("told(0, 5)", x.told(0, 5), 0).due("told(0, 11)", x.told(0, 11), 8);
-        e.due("told(1, 11)", x.told(1, 11), 2).due("now(1)", x.now(1), 18).due("about(0, 0)", x.about(0, 0), 4095).due("about(0, 1)", x.about(0, 1), 1);
-        e.due("about(0, 2)", x.about(0, 2), 9999).due("about(1, 0)", x.about(1, 0), 0).due("about(1, 1)", x.about(1, 1), 0).due("about(1, 2)", x.about(1, 2), 0);
+        e.due("of(0, 2)", x.of(0, 2), 99).due("told(0, 0)", x.told(0, 0), 8).due("told(0, 5)", x.told(0, 5), 0);
+        e.due("told(0, 11)", x.told(0, 11), 8);
+        e.due("told(1, 11)", x.told(1, 11), 2).due("now(1)", x.now(1), 18).due("about(0, 0)", x.about(0, 0), 4095);
+        e.due("about(0, 1)", x.about(0, 1), 1);
+        e.due("about(0, 2)", x.about(0, 2), 9999).due("about(1, 0)", x.about(1, 0), 0).due("about(1, 1)", x.about(1, 1), 0);
+        e.due("about(1, 2)", x.about(1, 2), 0);
         e.beyond("of(2, 0)", x.of(2, 0)).beyond("about(2, 0)", x.about(2, 0));
     }
 
@@ -76,7 +79,8 @@ public final class ImagesEdgesTest {
         x.sheet(2, 64, 1);
         x.hat(6);
         x.undo();
-        e.due("write(0, 1, 0), of section 3", x.write(0, 1, 0), 400).due("lays(1)", x.lays(1), Due.MISSING).due("lays(2)", x.lays(2), 0);
+        e.due("write(0, 1, 0), of section 3", x.write(0, 1, 0), 400).due("lays(1)", x.lays(1), Due.MISSING);
+        e.due("lays(2)", x.lays(2), 0);
         e.due("status(0)", x.status(0), 1);
     }
 
@@ -119,10 +123,12 @@ public final class ImagesEdgesTest {
         }
         e.due("undo()", x.undo(), 8).due("hat(0), as full as it was", x.hat(0), Due.FULL).due("head(0)", x.head(0), Due.FULL);
         for (int h = 0; h < 8; h++) {
-            e.due("of(" + h + ", 0)", x.of(h, 0), h % 6).due("of(" + h + ", 2)", x.of(h, 2), 10 + h).due("told", x.told(h, h), h + 1);
+            e.due("of(" + h + ", 0)", x.of(h, 0), h % 6).due("of(" + h + ", 2)", x.of(h, 2), 10 + h);
+            e.due("told", x.told(h, h), h + 1);
         }
         for (int d = 0; d < 6; d++) {
-            e.due("about(" + d + ", 0)", x.about(d, 0), 1 << d).due("about(" + d + ", 1)", x.about(d, 1), 0).due("about(" + d + ", 2)", x.about(d, 2), d + 1);
+            e.due("about(" + d + ", 0)", x.about(d, 0), 1 << d).due("about(" + d + ", 1)", x.about(d, 1), 0);
+            e.due("about(" + d + ", 2)", x.about(d, 2), d + 1);
         }
     }
 
@@ -147,7 +153,8 @@ public final class ImagesEdgesTest {
             x.tries(0, 0);
             x.weeks(3);
             x.hat(1);
-            e.due("undo(), the " + i + "th", x.undo(), 1).due("now(0)", x.now(0), 0).due("now(1)", x.now(1), 9).due("now(3)", x.now(3), 0);
+            e.due("undo(), the " + i + "th", x.undo(), 1).due("now(0)", x.now(0), 0).due("now(1)", x.now(1), 9);
+            e.due("now(3)", x.now(3), 0);
             e.due("now(5)", x.now(5), 0);
         }
         e.due("tear()", x.tear(), 1);
@@ -167,7 +174,8 @@ public final class ImagesEdgesTest {
         x.mind(0, 2, 6);
         x.moths(1);
         x.undo();
-        e.due("told(0, 0)", x.told(0, 0), 9).due("of(0, 2)", x.of(0, 2), 5).due("of(0, 0)", x.of(0, 0), 0).due("about(0, 0)", x.about(0, 0), 1);
+        e.due("told(0, 0)", x.told(0, 0), 9).due("of(0, 2)", x.of(0, 2), 5).due("of(0, 0)", x.of(0, 0), 0);
+        e.due("about(0, 0)", x.about(0, 0), 1);
         e.due("about(0, 1)", x.about(0, 1), 0).due("about(0, 2)", x.about(0, 2), 0).due("now(4)", x.now(4), 0);
     }
 
@@ -175,7 +183,8 @@ public final class ImagesEdgesTest {
         Edge e = Edge.promise(41, "NONE: nothing is kept.");
         HeadHats x = Due.shopOf("hat holds 3;head has 5;moths");
         e.due("undo()", x.undo(), Due.NONE).due("undo()", x.undo(), Due.NONE).due("status(3)", x.status(3), 2);
-        e.due("count(0), nothing changed", x.count(0), 1).due("now(2)", x.now(2), 3).due("now(3)", x.now(3), 5).due("now(4)", x.now(4), 1);
+        e.due("count(0), nothing changed", x.count(0), 1).due("now(2)", x.now(2), 3).due("now(3)", x.now(3), 5);
+        e.due("now(4)", x.now(4), 1);
         x.image();
         e.due("undo()", x.undo(), 1);
         x.tear();
@@ -188,7 +197,8 @@ public final class ImagesEdgesTest {
         e.due("tear()", x.tear(), 0);
         x.image();
         x.image();
-        e.due("tear(), of both", x.tear(), 1).due("tear()", x.tear(), 0).due("undo()", x.undo(), Due.NONE).due("status(-1)", x.status(-1), 1);
+        e.due("tear(), of both", x.tear(), 1).due("tear()", x.tear(), 0).due("undo()", x.undo(), Due.NONE);
+        e.due("status(-1)", x.status(-1), 1);
     }
 
     private static void tearThenImage() {
@@ -231,7 +241,8 @@ public final class ImagesEdgesTest {
     private static void countBeyond() {
         Edge e = Edge.promise(43, "BEYOND: another what.");
         HeadHats x = new HeadHats();
-        e.beyond("count(4)", x.count(4)).beyond("count(-1)", x.count(-1)).beyond("count(MIN)", x.count(MIN)).beyond("count(MAX)", x.count(MAX));
+        e.beyond("count(4)", x.count(4)).beyond("count(-1)", x.count(-1)).beyond("count(MIN)", x.count(MIN));
+        e.beyond("count(MAX)", x.count(MAX));
         e.due("status(0)", x.status(0), 4);
     }
 
@@ -245,7 +256,8 @@ public final class ImagesEdgesTest {
         e.due("status(-1)", x.status(-1), 7);
         x.sheet(0, 8, -1);
         x.sheet(0, 8, -1);
-        e.due("status(6)", x.status(6), 3).due("status(5)", x.status(5), 1).due("status(0)", x.status(0), 1).due("status(-1)", x.status(-1), 9);
+        e.due("status(6)", x.status(6), 3).due("status(5)", x.status(5), 1).due("status(0)", x.status(0), 1);
+        e.due("status(-1)", x.status(-1), 9);
     }
 
     private static void statusIsEver() {

@@ -80,7 +80,8 @@ public final class SheetsEdgesTest {
                 e.due("write(3, " + i + ", 7), all 0 again", x.write(3, i, 7), 0);
             }
             e.due("sheet(3, " + b + ", 0)", x.sheet(3, b, 0), 0).beyond("write(3, 0, 0), empty", x.write(3, 0, 0));
-            e.due("sheet(3, " + b + ", 1)", x.sheet(3, b, 1), 1).due("write(3, 0, 0)", x.write(3, 0, 0), 0).beyond("write(3, 1, 0)", x.write(3, 1, 0));
+            e.due("sheet(3, " + b + ", 1)", x.sheet(3, b, 1), 1).due("write(3, 0, 0)", x.write(3, 0, 0), 0);
+            e.beyond("write(3, 1, 0)", x.write(3, 1, 0));
             e.due("lays(3), there", x.lays(3), 0).due("write(2, 0, 0), another sheet", x.write(2, 0, 0), Due.MISSING);
         }
     }
@@ -107,7 +108,8 @@ public final class SheetsEdgesTest {
             e.beyond("sheet(0, " + b + ", 1)", x.sheet(0, b, 1));
         }
         e.beyond("sheet(4, 8, -1), before SIZE", x.sheet(4, 8, -1)).beyond("sheet(0, 9, -1), before SIZE", x.sheet(0, 9, -1));
-        e.beyond("sheet(4, 0, -1)", x.sheet(4, 0, -1)).due("status(6)", x.status(6), 0).due("copy(0, 0, 0, 0, 2)", x.copy(0, 0, 0, 0, 2), 2);
+        e.beyond("sheet(4, 0, -1)", x.sheet(4, 0, -1)).due("status(6)", x.status(6), 0);
+        e.due("copy(0, 0, 0, 0, 2)", x.copy(0, 0, 0, 0, 2), 2);
     }
 
     private static void sheetSize() {
@@ -115,9 +117,11 @@ public final class SheetsEdgesTest {
         HeadHats x = threeSheets(2);
         int[] bits = {0, 8, 16, 64};
         for (int b : bits) {
-            e.due("sheet(0, " + b + ", -1)", x.sheet(0, b, -1), Due.SIZE).due("sheet(3, " + b + ", MIN)", x.sheet(3, b, MIN), Due.SIZE);
+            e.due("sheet(0, " + b + ", -1)", x.sheet(0, b, -1), Due.SIZE);
+            e.due("sheet(3, " + b + ", MIN)", x.sheet(3, b, MIN), Due.SIZE);
         }
-        e.due("status(6)", x.status(6), 8).due("write(0, 1, 0), still there", x.write(0, 1, 0), 0).due("lays(3)", x.lays(3), Due.MISSING);
+        e.due("status(6)", x.status(6), 8).due("write(0, 1, 0), still there", x.write(0, 1, 0), 0);
+        e.due("lays(3)", x.lays(3), Due.MISSING);
     }
 
     private static void sheetAbove40() {
@@ -127,7 +131,8 @@ public final class SheetsEdgesTest {
         for (int b : bits) {
             e.beyond("sheet(0, " + b + ", 41)", x.sheet(0, b, 41)).beyond("sheet(0, " + b + ", MAX)", x.sheet(0, b, MAX));
         }
-        e.due("write(0, 1, 0), still there", x.write(0, 1, 0), 0).due("sheet(0, 0, 40)", x.sheet(0, 0, 40), 0).due("sheet(0, 8, 40)", x.sheet(0, 8, 40), 40);
+        e.due("write(0, 1, 0), still there", x.write(0, 1, 0), 0).due("sheet(0, 0, 40)", x.sheet(0, 0, 40), 0);
+        e.due("sheet(0, 8, 40)", x.sheet(0, 8, 40), 40);
     }
 
     private static void sheetRefusedStays() {
@@ -195,7 +200,8 @@ public final class SheetsEdgesTest {
         Edge e = Edge.promise(35, "BEYOND: no such sheet.");
         HeadHats x = threeSheets(2);
         e.beyond("write(4, 0, 0)", x.write(4, 0, 0)).beyond("write(-1, 0, 0)", x.write(-1, 0, 0));
-        e.beyond("write(MIN, 0, 0)", x.write(MIN, 0, 0)).beyond("write(MAX, 0, 0)", x.write(MAX, 0, 0)).due("status(5)", x.status(5), 0);
+        e.beyond("write(MIN, 0, 0)", x.write(MIN, 0, 0)).beyond("write(MAX, 0, 0)", x.write(MAX, 0, 0));
+        e.due("status(5)", x.status(5), 0);
     }
 
     private static void writeMissing() {
@@ -208,7 +214,8 @@ public final class SheetsEdgesTest {
     private static void writeNoSuchNumber() {
         Edge e = Edge.promise(35, "BEYOND: no such number.");
         HeadHats x = threeSheets(2);
-        e.beyond("write(0, 2, 1)", x.write(0, 2, 1)).beyond("write(0, -1, 1)", x.write(0, -1, 1)).beyond("write(0, 40, 1)", x.write(0, 40, 1));
+        e.beyond("write(0, 2, 1)", x.write(0, 2, 1)).beyond("write(0, -1, 1)", x.write(0, -1, 1));
+        e.beyond("write(0, 40, 1)", x.write(0, 40, 1));
         e.beyond("write(0, MIN, 1)", x.write(0, MIN, 1)).beyond("write(0, MAX, 1)", x.write(0, MAX, 1));
         e.due("write(0, 1, 0), the last", x.write(0, 1, 0), 0).due("write(0, 0, 0)", x.write(0, 0, 0), 0);
         x.sheet(0, 8, 40);
@@ -237,7 +244,8 @@ public final class SheetsEdgesTest {
         for (int i = 0; i < 40; i++) {
             e.due("write(3, " + i + ", 0)", x.write(3, i, 0), Long.MIN_VALUE + i);
         }
-        e.due("copy(0, 39, 3, 0, 1), the last to the first", x.copy(0, 39, 3, 0, 1), 1).due("write(3, 0, 0)", x.write(3, 0, 0), Long.MIN_VALUE + 39);
+        e.due("copy(0, 39, 3, 0, 1), the last to the first", x.copy(0, 39, 3, 0, 1), 1);
+        e.due("write(3, 0, 0)", x.write(3, 0, 0), Long.MIN_VALUE + 39);
         e.due("copy(0, 0, 3, 39, 1)", x.copy(0, 0, 3, 39, 1), 1).due("write(3, 39, 0)", x.write(3, 39, 0), Long.MIN_VALUE);
         e.due("write(3, 1, 0)", x.write(3, 1, 0), 0).due("write(0, 0, 0), it stays", x.write(0, 0, 0), Long.MIN_VALUE);
     }
@@ -246,8 +254,10 @@ public final class SheetsEdgesTest {
         Edge e = Edge.promise(36, "n numbers of a sheet from one on come to another one from one on ..: n.");
         HeadHats x = threeSheets(3);
         x.sheet(3, 8, 0);
-        e.due("copy(0, 0, 0, 0, 0)", x.copy(0, 0, 0, 0, 0), 0).due("copy(0, 3, 0, 3, 0), from the end on", x.copy(0, 3, 0, 3, 0), 0);
-        e.due("copy(3, 0, 3, 0, 0), of an empty one", x.copy(3, 0, 3, 0, 0), 0).due("copy(0, 3, 3, 0, 0)", x.copy(0, 3, 3, 0, 0), 0);
+        e.due("copy(0, 0, 0, 0, 0)", x.copy(0, 0, 0, 0, 0), 0);
+        e.due("copy(0, 3, 0, 3, 0), from the end on", x.copy(0, 3, 0, 3, 0), 0);
+        e.due("copy(3, 0, 3, 0, 0), of an empty one", x.copy(3, 0, 3, 0, 0), 0);
+        e.due("copy(0, 3, 3, 0, 0)", x.copy(0, 3, 3, 0, 0), 0);
         e.beyond("copy(3, 0, 0, 0, 1)", x.copy(3, 0, 0, 0, 1)).beyond("copy(0, 0, 3, 0, 1)", x.copy(0, 0, 3, 0, 1));
     }
 
@@ -272,8 +282,10 @@ public final class SheetsEdgesTest {
         HeadHats x = threeSheets(2);
         int[] none = {4, -1, MIN, MAX};
         for (int s : none) {
-            e.beyond("copy(" + s + ", 0, 0, 0, 1)", x.copy(s, 0, 0, 0, 1)).beyond("copy(0, 0, " + s + ", 0, 1)", x.copy(0, 0, s, 0, 1));
-            e.beyond("copy(" + s + ", 0, 3, 0, 1), before MISSING", x.copy(s, 0, 3, 0, 1)).beyond("copy(3, 0, " + s + ", 0, 1)", x.copy(3, 0, s, 0, 1));
+            e.beyond("copy(" + s + ", 0, 0, 0, 1)", x.copy(s, 0, 0, 0, 1));
+            e.beyond("copy(0, 0, " + s + ", 0, 1)", x.copy(0, 0, s, 0, 1));
+            e.beyond("copy(" + s + ", 0, 3, 0, 1), before MISSING", x.copy(s, 0, 3, 0, 1));
+            e.beyond("copy(3, 0, " + s + ", 0, 1)", x.copy(3, 0, s, 0, 1));
         }
         e.due("status(5)", x.status(5), 0);
     }
@@ -281,9 +293,12 @@ public final class SheetsEdgesTest {
     private static void copyMissing() {
         Edge e = Edge.promise(36, "MISSING: one is.");
         HeadHats x = threeSheets(2);
-        e.due("copy(3, 0, 0, 0, 1)", x.copy(3, 0, 0, 0, 1), Due.MISSING).due("copy(0, 0, 3, 0, 1)", x.copy(0, 0, 3, 0, 1), Due.MISSING);
-        e.due("copy(3, 0, 3, 0, 0)", x.copy(3, 0, 3, 0, 0), Due.MISSING).due("copy(0, -1, 3, 9, -1)", x.copy(0, -1, 3, 9, -1), Due.MISSING);
-        e.due("copy(3, 0, 2, 0, MIN)", x.copy(3, 0, 2, 0, MIN), Due.MISSING).due("status(2)", x.status(2), 0).due("status(0)", x.status(0), 0);
+        e.due("copy(3, 0, 0, 0, 1)", x.copy(3, 0, 0, 0, 1), Due.MISSING);
+        e.due("copy(0, 0, 3, 0, 1)", x.copy(0, 0, 3, 0, 1), Due.MISSING);
+        e.due("copy(3, 0, 3, 0, 0)", x.copy(3, 0, 3, 0, 0), Due.MISSING);
+        e.due("copy(0, -1, 3, 9, -1)", x.copy(0, -1, 3, 9, -1), Due.MISSING);
+        e.due("copy(3, 0, 2, 0, MIN)", x.copy(3, 0, 2, 0, MIN), Due.MISSING).due("status(2)", x.status(2), 0);
+        e.due("status(0)", x.status(0), 0);
     }
 
     private static void copyKind() {
@@ -294,7 +309,8 @@ public final class SheetsEdgesTest {
                 e.due("copy(" + s + ", 0, " + t + ", 0, 2)", x.copy(s, 0, t, 0, 2), s == t ? 2 : Due.KIND);
             }
         }
-        e.due("copy(0, 0, 1, 0, 0), of none too", x.copy(0, 0, 1, 0, 0), Due.KIND).due("copy(0, -1, 1, 0, 1), before BEYOND", x.copy(0, -1, 1, 0, 1), Due.KIND);
+        e.due("copy(0, 0, 1, 0, 0), of none too", x.copy(0, 0, 1, 0, 0), Due.KIND);
+        e.due("copy(0, -1, 1, 0, 1), before BEYOND", x.copy(0, -1, 1, 0, 1), Due.KIND);
         e.due("copy(0, 0, 1, 0, 3)", x.copy(0, 0, 1, 0, 3), Due.KIND).due("copy(0, 0, 2, 0, -1)", x.copy(0, 0, 2, 0, -1), Due.KIND);
     }
 
@@ -303,11 +319,16 @@ public final class SheetsEdgesTest {
         HeadHats x = new HeadHats();
         x.sheet(0, 16, 5);
         x.sheet(1, 16, 3);
-        e.due("copy(0, 0, 1, 0, 3)", x.copy(0, 0, 1, 0, 3), 3).due("copy(0, 2, 1, 0, 3)", x.copy(0, 2, 1, 0, 3), 3).due("copy(1, 0, 0, 2, 3)", x.copy(1, 0, 0, 2, 3), 3);
-        e.beyond("copy(0, 3, 1, 0, 3)", x.copy(0, 3, 1, 0, 3)).beyond("copy(0, 0, 1, 0, 4)", x.copy(0, 0, 1, 0, 4)).beyond("copy(0, 0, 1, 1, 3)", x.copy(0, 0, 1, 1, 3));
-        e.beyond("copy(1, 0, 0, 0, 4)", x.copy(1, 0, 0, 0, 4)).beyond("copy(1, 0, 0, 3, 3)", x.copy(1, 0, 0, 3, 3)).beyond("copy(0, 0, 0, 0, 6)", x.copy(0, 0, 0, 0, 6));
-        e.beyond("copy(0, 5, 1, 0, 1)", x.copy(0, 5, 1, 0, 1)).beyond("copy(0, 6, 1, 0, 0)", x.copy(0, 6, 1, 0, 0)).beyond("copy(0, 0, 1, 4, 0)", x.copy(0, 0, 1, 4, 0));
-        e.beyond("copy(0, MAX, 1, 0, 0)", x.copy(0, MAX, 1, 0, 0)).beyond("copy(0, 0, 1, MAX, 0)", x.copy(0, 0, 1, MAX, 0)).beyond("copy(0, 0, 1, 0, MAX)", x.copy(0, 0, 1, 0, MAX));
+        e.due("copy(0, 0, 1, 0, 3)", x.copy(0, 0, 1, 0, 3), 3).due("copy(0, 2, 1, 0, 3)", x.copy(0, 2, 1, 0, 3), 3);
+        e.due("copy(1, 0, 0, 2, 3)", x.copy(1, 0, 0, 2, 3), 3);
+        e.beyond("copy(0, 3, 1, 0, 3)", x.copy(0, 3, 1, 0, 3)).beyond("copy(0, 0, 1, 0, 4)", x.copy(0, 0, 1, 0, 4));
+        e.beyond("copy(0, 0, 1, 1, 3)", x.copy(0, 0, 1, 1, 3));
+        e.beyond("copy(1, 0, 0, 0, 4)", x.copy(1, 0, 0, 0, 4)).beyond("copy(1, 0, 0, 3, 3)", x.copy(1, 0, 0, 3, 3));
+        e.beyond("copy(0, 0, 0, 0, 6)", x.copy(0, 0, 0, 0, 6));
+        e.beyond("copy(0, 5, 1, 0, 1)", x.copy(0, 5, 1, 0, 1)).beyond("copy(0, 6, 1, 0, 0)", x.copy(0, 6, 1, 0, 0));
+        e.beyond("copy(0, 0, 1, 4, 0)", x.copy(0, 0, 1, 4, 0));
+        e.beyond("copy(0, MAX, 1, 0, 0)", x.copy(0, MAX, 1, 0, 0)).beyond("copy(0, 0, 1, MAX, 0)", x.copy(0, 0, 1, MAX, 0));
+        e.beyond("copy(0, 0, 1, 0, MAX)", x.copy(0, 0, 1, 0, MAX));
         // Sums that wrap around to something small.
         e.beyond("copy(0, MAX, 1, 0, 1)", x.copy(0, MAX, 1, 0, 1)).beyond("copy(0, 1, 1, 0, MAX)", x.copy(0, 1, 1, 0, MAX));
         e.beyond("copy(0, MAX, 1, MAX, MAX)", x.copy(0, MAX, 1, MAX, MAX)).beyond("copy(0, 0, 1, MAX, 1)", x.copy(0, 0, 1, MAX, 1));
@@ -320,8 +341,10 @@ public final class SheetsEdgesTest {
         x.write(0, 1, 7);
         int[] below = {-1, -5, MIN, MIN + 1};
         for (int v : below) {
-            e.beyond("copy(0, " + v + ", 0, 0, 1)", x.copy(0, v, 0, 0, 1)).beyond("copy(0, 0, 0, " + v + ", 1)", x.copy(0, 0, 0, v, 1));
-            e.beyond("copy(0, 0, 0, 0, " + v + ")", x.copy(0, 0, 0, 0, v)).beyond("copy(0, " + v + ", 0, 0, 0)", x.copy(0, v, 0, 0, 0));
+            e.beyond("copy(0, " + v + ", 0, 0, 1)", x.copy(0, v, 0, 0, 1));
+            e.beyond("copy(0, 0, 0, " + v + ", 1)", x.copy(0, 0, 0, v, 1));
+            e.beyond("copy(0, 0, 0, 0, " + v + ")", x.copy(0, 0, 0, 0, v));
+            e.beyond("copy(0, " + v + ", 0, 0, 0)", x.copy(0, v, 0, 0, 0));
             e.beyond("copy(0, 0, 0, " + v + ", 0)", x.copy(0, 0, 0, v, 0)).beyond("all three", x.copy(0, v, 0, v, v));
             e.beyond("copy(0, 5, 0, 5, " + v + ")", x.copy(0, 5, 0, 5, v));
         }
@@ -352,7 +375,8 @@ public final class SheetsEdgesTest {
         x.sheet(2, 8, 1);
         e.due("lays(0), no HAT", x.lays(0), 0).due("lays(1)", x.lays(1), 0);
         Due.read(x, "hat;hat");
-        e.due("lays(1), no number", x.lays(1), 0).due("count(3)", x.count(3), 10).due("lays(2), one of two", x.lays(2), 1).due("count(3)", x.count(3), 5);
+        e.due("lays(1), no number", x.lays(1), 0).due("count(3)", x.count(3), 10).due("lays(2), one of two", x.lays(2), 1);
+        e.due("count(3)", x.count(3), 5);
         e.due("lays(0), more than HATS", x.lays(0), 2).due("count(3)", x.count(3), 0);
         x.hat(0);
         e.due("of(2, 2), a HAT that came later", x.of(2, 2), 5).due("status(-1)", x.status(-1), 0);
@@ -370,14 +394,17 @@ public final class SheetsEdgesTest {
         x.write(1, 0, 355);
         x.write(1, 1, 65536 + 42);
         x.write(1, 2, 99);
-        e.due("lays(1), 355 stays in 16 bits", x.lays(1), 2).due("of(0, 2)", x.of(0, 2), 99).due("of(1, 2)", x.of(1, 2), 42).due("of(2, 2)", x.of(2, 2), 99);
+        e.due("lays(1), 355 stays in 16 bits", x.lays(1), 2).due("of(0, 2)", x.of(0, 2), 99).due("of(1, 2)", x.of(1, 2), 42);
+        e.due("of(2, 2)", x.of(2, 2), 99);
     }
 
     private static void laysBeyondMissing() {
         Edge e = Edge.promise(37, "BEYOND: no such sheet. MISSING.");
         HeadHats x = Due.shopOf("hat");
-        e.beyond("lays(4)", x.lays(4)).beyond("lays(-1)", x.lays(-1)).beyond("lays(MIN)", x.lays(MIN)).beyond("lays(MAX)", x.lays(MAX));
-        e.due("lays(3)", x.lays(3), Due.MISSING).due("lays(0)", x.lays(0), Due.MISSING).due("count(3)", x.count(3), 5).due("status(5)", x.status(5), 2);
+        e.beyond("lays(4)", x.lays(4)).beyond("lays(-1)", x.lays(-1)).beyond("lays(MIN)", x.lays(MIN));
+        e.beyond("lays(MAX)", x.lays(MAX));
+        e.due("lays(3)", x.lays(3), Due.MISSING).due("lays(0)", x.lays(0), Due.MISSING).due("count(3)", x.count(3), 5);
+        e.due("status(5)", x.status(5), 2);
         x.sheet(3, 8, 1);
         e.due("lays(3)", x.lays(3), 1);
     }
@@ -395,7 +422,8 @@ public final class SheetsEdgesTest {
             x.sheet(3, b, 0);
             e.due("book(3, 0), of none", x.book(3, 0), 0);
             x.sheet(3, b, 1);
-            e.due("book(3, 1), of one", x.book(3, 1), 1).due("write(3, 0, 0)", x.write(3, 0, 0), 9).due("now(0), nothing changes", x.now(0), 0);
+            e.due("book(3, 1), of one", x.book(3, 1), 1).due("write(3, 0, 0)", x.write(3, 0, 0), 9);
+            e.due("now(0), nothing changes", x.now(0), 0);
             e.due("now(1)", x.now(1), 117).due("status(-1)", x.status(-1), 0);
         }
     }
@@ -431,10 +459,13 @@ public final class SheetsEdgesTest {
         Edge e = Edge.promise(38, "BEYOND: no such sheet. MISSING. BEYOND: hat.");
         HeadHats x = Due.shopOf("hat holds 1;hat holds 1");
         x.sheet(0, 8, 1);
-        e.beyond("book(4, 0)", x.book(4, 0)).beyond("book(-1, 0)", x.book(-1, 0)).beyond("book(MIN, 0)", x.book(MIN, 0)).beyond("book(MAX, 0)", x.book(MAX, 0));
-        e.beyond("book(4, 9), the sheet first", x.book(4, 9)).due("book(3, 0)", x.book(3, 0), Due.MISSING).due("book(3, 2), before the hat", x.book(3, 2), Due.MISSING);
+        e.beyond("book(4, 0)", x.book(4, 0)).beyond("book(-1, 0)", x.book(-1, 0)).beyond("book(MIN, 0)", x.book(MIN, 0));
+        e.beyond("book(MAX, 0)", x.book(MAX, 0));
+        e.beyond("book(4, 9), the sheet first", x.book(4, 9)).due("book(3, 0)", x.book(3, 0), Due.MISSING);
+        e.due("book(3, 2), before the hat", x.book(3, 2), Due.MISSING);
         e.due("book(3, -1)", x.book(3, -1), Due.MISSING).beyond("book(0, 2)", x.book(0, 2)).beyond("book(0, -1)", x.book(0, -1));
-        e.beyond("book(0, MIN)", x.book(0, MIN)).beyond("book(0, MAX)", x.book(0, MAX)).due("write(0, 0, 0), nothing came", x.write(0, 0, 0), 0);
+        e.beyond("book(0, MIN)", x.book(0, MIN)).beyond("book(0, MAX)", x.book(0, MAX));
+        e.due("write(0, 0, 0), nothing came", x.write(0, 0, 0), 0);
         e.due("book(0, 1), the last", x.book(0, 1), 1);
     }
 
@@ -538,9 +569,12 @@ public final class SheetsEdgesTest {
         Edge e = Edge.promise(39, "BEYOND: no such sheet. MISSING. BEYOND: hat.");
         HeadHats x = Due.shopOf("hat;hat");
         x.sheet(0, 8, 0);
-        e.beyond("read(4, 0)", x.read(4, 0)).beyond("read(-1, 0)", x.read(-1, 0)).beyond("read(MIN, 0)", x.read(MIN, 0)).beyond("read(MAX, 0)", x.read(MAX, 0));
-        e.beyond("read(4, 9), the sheet first", x.read(4, 9)).due("read(3, 0)", x.read(3, 0), Due.MISSING).due("read(3, 2), before the hat", x.read(3, 2), Due.MISSING);
+        e.beyond("read(4, 0)", x.read(4, 0)).beyond("read(-1, 0)", x.read(-1, 0)).beyond("read(MIN, 0)", x.read(MIN, 0));
+        e.beyond("read(MAX, 0)", x.read(MAX, 0));
+        e.beyond("read(4, 9), the sheet first", x.read(4, 9)).due("read(3, 0)", x.read(3, 0), Due.MISSING);
+        e.due("read(3, 2), before the hat", x.read(3, 2), Due.MISSING);
         e.due("read(3, -1)", x.read(3, -1), Due.MISSING).beyond("read(0, 2)", x.read(0, 2)).beyond("read(0, -1)", x.read(0, -1));
-        e.beyond("read(0, MIN)", x.read(0, MIN)).beyond("read(0, MAX)", x.read(0, MAX)).due("read(0, 1), the last", x.read(0, 1), 72);
+        e.beyond("read(0, MIN)", x.read(0, MIN)).beyond("read(0, MAX)", x.read(0, MAX));
+        e.due("read(0, 1), the last", x.read(0, 1), 72);
     }
 }

@@ -52,7 +52,8 @@ public final class TextEdgesTest {
     /** A text with a fault comes to nothing. */
     private static void bad(Edge e, String text, int place) {
         HeadHats x = new HeadHats();
-        e.due("shop() of \"" + text + "\"", read(x, text), -1 - place).due("count(1)", x.count(1), 0).due("status(-1)", x.status(-1), 0);
+        e.due("shop() of \"" + text + "\"", read(x, text), -1 - place).due("count(1)", x.count(1), 0);
+        e.due("status(-1)", x.status(-1), 0);
         e.due("count(0)", x.count(0), 0).due("count(2)", x.count(2), 0).due("now(4)", x.now(4), 0);
     }
 
@@ -80,7 +81,8 @@ public final class TextEdgesTest {
     private static void feedBehindIt() {
         Edge e = Edge.promise(31, "THE TAPE gets .. bytes .. behind it .. how many it has.");
         HeadHats x = new HeadHats();
-        e.due("feed", x.feed('h', 1), 1).due("feed", x.feed('a', 1), 2).due("feed", x.feed('t', 1), 3).due("count(1)", x.count(1), 3);
+        e.due("feed", x.feed('h', 1), 1).due("feed", x.feed('a', 1), 2).due("feed", x.feed('t', 1), 3);
+        e.due("count(1)", x.count(1), 3);
         e.due("shop()", x.shop(), 1).due("feed, on an empty tape again", x.feed('h', 1), 1);
     }
 
@@ -100,7 +102,8 @@ public final class TextEdgesTest {
             e.due("feed(.., " + n + "), to 120", x.feed(0x20202020, n), 120).due("feed(.., 1), to 121", x.feed(32, 1), Due.FULL);
             HeadHats y = new HeadHats();
             Due.feed(y, BLANKS.substring(n - 1));
-            e.due("feed(.., " + n + "), to 121", y.feed(0x20202020, n), Due.FULL).due("count(1), none of them came", y.count(1), 121 - n);
+            e.due("feed(.., " + n + "), to 121", y.feed(0x20202020, n), Due.FULL);
+            e.due("count(1), none of them came", y.count(1), 121 - n);
             e.beyond("feed(.., 0), asked first", y.feed(32, 0)).beyond("feed(.., 5), asked first", y.feed(32, 5));
             e.beyond("feed(.., MAX), asked first", y.feed(32, MAX));
             e.due("status(1)", y.status(1), 1).due("shop(), as it was", y.shop(), -1 - (121 - n));
@@ -131,7 +134,8 @@ public final class TextEdgesTest {
         x.weeks(2);
         x.mind(0, 2, 70);
         e.due("shop()", read(x, "felt holds 6;head has 6"), 2).due("count(0)", x.count(0), 2).due("count(2)", x.count(2), 2);
-        e.due("of(0, 0)", x.of(0, 0), 2).due("of(0, 3)", x.of(0, 3), 5).due("of(0, 2)", x.of(0, 2), 1).due("about(0, 1)", x.about(0, 1), 1);
+        e.due("of(0, 0)", x.of(0, 0), 2).due("of(0, 3)", x.of(0, 3), 5).due("of(0, 2)", x.of(0, 2), 1);
+        e.due("about(0, 1)", x.about(0, 1), 1);
         e.due("about(0, 2)", x.about(0, 2), 70).due("now(0)", x.now(0), 2).due("now(4)", x.now(4), 1);
         e.due("of(1, 0)", x.of(1, 0), 1).due("of(1, 3)", x.of(1, 3), 18).due("about(1, 0)", x.about(1, 0), 6);
     }
@@ -170,7 +174,8 @@ public final class TextEdgesTest {
     private static void numbersOfDigits() {
         Edge e = Edge.term(33, "NUMBERS (digits, ..)");
         HeadHats x = good(e, "hat holds 1234 pledge 56;hat holds 789 pledge 09", 2);
-        e.due("of(0, 1)", x.of(0, 1), 1234).due("of(0, 2)", x.of(0, 2), 56).due("of(1, 1)", x.of(1, 1), 789).due("of(1, 2)", x.of(1, 2), 9);
+        e.due("of(0, 1)", x.of(0, 1), 1234).due("of(0, 2)", x.of(0, 2), 56).due("of(1, 1)", x.of(1, 1), 789);
+        e.due("of(1, 2)", x.of(1, 2), 9);
         HeadHats y = good(e, "hat holds 0000000000000004095 pledge 000000000000000000000099;head has 00000000000000000000000", 2);
         e.due("of(0, 1), nought ahead", y.of(0, 1), 4095).due("of(0, 2)", y.of(0, 2), 99).due("about(0, 0)", y.about(0, 0), 0);
         bad(e, "hat holds -1", 10);
@@ -241,7 +246,8 @@ public final class TextEdgesTest {
         String[] names = {"hat", "felt", "straw", "feather", "mitre", "brim"};
         for (int k = 0; k < 6; k++) {
             HeadHats x = good(e, names[k], 1);
-            e.due("of(0, 0)", x.of(0, 0), k).due("of(0, 1)", x.of(0, 1), 0).due("of(0, 2)", x.of(0, 2), 5).due("count(2)", x.count(2), 0);
+            e.due("of(0, 0)", x.of(0, 0), k).due("of(0, 1)", x.of(0, 1), 0).due("of(0, 2)", x.of(0, 2), 5);
+            e.due("count(2)", x.count(2), 0);
             bad(e, names[k] + "s", 0);
             bad(e, names[k].substring(1), 0);
             bad(e, names[k].substring(0, names[k].length() - 1), 0);
@@ -428,8 +434,10 @@ public final class TextEdgesTest {
         bad(e, "head;head;head;head;head;head; head has 9999", 31);
         HeadHats x = Due.shopOf("head;head;head;head;head");
         e.due("shop(), a 6th and a 7th", read(x, "head;head"), -6).due("count(2)", x.count(2), 5);
-        e.due("shop(), a 6th", read(x, "head has 9"), 1).due("about(5, 0)", x.about(5, 0), 9).due("shop(), a 7th", read(x, "head"), -1);
-        e.due("shop(), a 7th", read(x, "hat;head bald"), -5).due("count(0)", x.count(0), 0).due("shop() of a hat", read(x, "hat;none"), 2);
+        e.due("shop(), a 6th", read(x, "head has 9"), 1).due("about(5, 0)", x.about(5, 0), 9);
+        e.due("shop(), a 7th", read(x, "head"), -1);
+        e.due("shop(), a 7th", read(x, "hat;head bald"), -5).due("count(0)", x.count(0), 0);
+        e.due("shop() of a hat", read(x, "hat;none"), 2);
         e.due("count(2)", x.count(2), 6).due("status(-1), no finding", x.status(-1), 0);
     }
 
@@ -441,9 +449,12 @@ public final class TextEdgesTest {
         x.mind(0, 2, 9);
         x.weeks(1);
         e.due("shop()", read(x, "hat holds 4095 pledge 1;head has 8;moths;brim;head;cat"), -52);
-        e.due("count(0)", x.count(0), 1).due("count(1)", x.count(1), 0).due("count(2)", x.count(2), 1).due("count(3)", x.count(3), 6);
-        e.due("now(0)", x.now(0), 1).due("now(1)", x.now(1), 16).due("now(2)", x.now(2), 5).due("now(3)", x.now(3), 7).due("now(4)", x.now(4), 0);
-        e.due("now(5)", x.now(5), 9).due("of(0, 0)", x.of(0, 0), 5).due("about(0, 1)", x.about(0, 1), 1).due("status(-1)", x.status(-1), 0);
+        e.due("count(0)", x.count(0), 1).due("count(1)", x.count(1), 0).due("count(2)", x.count(2), 1);
+        e.due("count(3)", x.count(3), 6);
+        e.due("now(0)", x.now(0), 1).due("now(1)", x.now(1), 16).due("now(2)", x.now(2), 5).due("now(3)", x.now(3), 7);
+        e.due("now(4)", x.now(4), 0);
+        e.due("now(5)", x.now(5), 9).due("of(0, 0)", x.of(0, 0), 5).due("about(0, 1)", x.about(0, 1), 1);
+        e.due("status(-1)", x.status(-1), 0);
         e.due("undo(), the image stays", x.undo(), 1).due("of(0, 0)", x.of(0, 0), 2).due("now(1)", x.now(1), 18);
         e.due("feed, the tape is empty", x.feed(104, 1), 1);
     }

@@ -16,7 +16,6 @@ public final class TriedOnEdgesTest {
         keepsOfStrawAndBrim();
         keepsOfFeather();
         keepsBeyond();
-        fadesOfEach();
         triesLeavesWhatIsFresher();
         triesLeavesWhatItHadAhead();
         triesTakesByWhatItHad();
@@ -64,9 +63,10 @@ public final class TriedOnEdgesTest {
     }
 
     private static HeadHats atWeek(HeadHats x, int week) {
-        for (int i = x.now(0); i < week; i = x.now(0)) {
-            x.weeks(Math.min(60, week - i));
+        for (int at = 0; at < week; at += 60) {
+            x.weeks(Math.min(60, week - at));
         }
+        Due.due(19, "now(0), on the way to WEEK " + week, x.now(0), week);
         return x;
     }
 
@@ -207,20 +207,6 @@ public final class TriedOnEdgesTest {
         e.beyond("keeps(0, MIN)", x.keeps(0, MIN)).beyond("keeps(0, MAX)", x.keeps(0, MAX));
     }
 
-    private static void fadesOfEach() {
-        Edge e = Edge.term(4, "FADES (how much FRESH is less in a WEEK w)");
-        HeadHats x = Due.shopOf("hat;felt;straw;feather;mitre;brim");
-        int[] felt = {0, 1, 0, 1, 0, 1, 0, 1, 0, 1, 0, 1, 0};
-        int[] mitre = {1, 1, 0, 2, 0, 1, 1, 1, 0, 2, 0, 1, 1};
-        for (int w = 0; w <= 12; w++) {
-            int[] due = {1, felt[w], 2, 1, mitre[w], 1};
-            for (int h = 0; h < 6; h++) {
-                e.due("of(" + h + ", 4) in WEEK " + w, x.of(h, 4), due[h]);
-            }
-            x.weeks(1);
-        }
-    }
-
     private static void triesLeavesWhatIsFresher() {
         Edge e = Edge.term(15, "then the HAT HOLDS each THOUGHT that the head HAD (ahead of it) with KEEPS, if that is more FRESH than it is");
         int[][] kept = {{0, 9}, {2, 4}, {5, 5}};
@@ -249,7 +235,8 @@ public final class TriedOnEdgesTest {
         HeadHats z = one(3, 7);
         hold(z, 4080, 1);
         e.due("tries(0, 0)", z.tries(0, 0), 4087);
-        e.due("told(0, 2), a feather's KEEPS by three that it HAD, not by eleven", z.told(0, 2), 6).due("told(0, 4)", z.told(0, 4), 1);
+        e.due("told(0, 2), a feather's KEEPS by three that it HAD, not by eleven", z.told(0, 2), 6);
+        e.due("told(0, 4)", z.told(0, 4), 1);
     }
 
     private static void triesTakesByWhatItHad() {
@@ -312,7 +299,8 @@ public final class TriedOnEdgesTest {
         Edge e = Edge.promise(16, "STATE: PENNIES are less than PLEDGE.");
         HeadHats x = Due.shopOf("hat pledge 99;head");
         x.mind(0, 2, 98);
-        e.due("redeem(0, 0), of 98", x.redeem(0, 0), Due.STATE).due("of(0, 2)", x.of(0, 2), 99).due("about(0, 2)", x.about(0, 2), 98);
+        e.due("redeem(0, 0), of 98", x.redeem(0, 0), Due.STATE).due("of(0, 2)", x.of(0, 2), 99);
+        e.due("about(0, 2)", x.about(0, 2), 98);
         x.mind(0, 2, 99);
         e.due("redeem(0, 0), of 99", x.redeem(0, 0), 0).due("of(0, 2)", x.of(0, 2), 0).due("status(4)", x.status(4), 1);
         x.pledge(0, 1);
@@ -348,8 +336,10 @@ public final class TriedOnEdgesTest {
     private static void blendOtherStays() {
         Edge e = Edge.promise(17, "FRESH of each THOUGHT of the first HAT becomes the mean (cut) of both: what it HOLDS then.");
         HeadHats x = Due.shopOf("brim holds 4095 pledge 7;felt pledge 8");
-        e.due("blend(1, 0), the later one first", x.blend(1, 0), ALL).due("of(1, 3)", x.of(1, 3), 48).due("of(0, 3)", x.of(0, 3), 108);
-        e.due("of(1, 0)", x.of(1, 0), 1).due("of(1, 2)", x.of(1, 2), 8).due("of(0, 0)", x.of(0, 0), 5).due("of(0, 2)", x.of(0, 2), 7);
+        e.due("blend(1, 0), the later one first", x.blend(1, 0), ALL).due("of(1, 3)", x.of(1, 3), 48);
+        e.due("of(0, 3)", x.of(0, 3), 108);
+        e.due("of(1, 0)", x.of(1, 0), 1).due("of(1, 2)", x.of(1, 2), 8).due("of(0, 0)", x.of(0, 0), 5);
+        e.due("of(0, 2)", x.of(0, 2), 7);
     }
 
     private static void blendBeyond() {
@@ -405,7 +395,8 @@ public final class TriedOnEdgesTest {
     private static void weeksFrom1To60() {
         Edge e = Edge.promise(19, "n WEEKS go (1 to 60): FRESH of all HATS together then.");
         HeadHats x = new HeadHats();
-        e.due("weeks(1), of no HAT", x.weeks(1), 0).due("now(0)", x.now(0), 1).due("weeks(60)", x.weeks(60), 0).due("now(0)", x.now(0), 61);
+        e.due("weeks(1), of no HAT", x.weeks(1), 0).due("now(0)", x.now(0), 1).due("weeks(60)", x.weeks(60), 0);
+        e.due("now(0)", x.now(0), 61);
         HeadHats y = Due.shopOf("hat holds 4095;hat holds 4095;brim holds 1;hat;hat;hat;hat;feather holds 4095");
         e.due("weeks(1), of eight HATS", y.weeks(1), 96 + 96 + 8 + 96).due("weeks(8)", y.weeks(8), 0);
         HeadHats z = Due.shopOf("felt holds 1");
@@ -492,7 +483,8 @@ public final class TriedOnEdgesTest {
         Edge e = Edge.promise(19, "BEYOND.");
         HeadHats x = Due.shopOf("hat holds 1");
         e.beyond("weeks(0)", x.weeks(0)).beyond("weeks(-1)", x.weeks(-1)).beyond("weeks(61)", x.weeks(61));
-        e.beyond("weeks(MIN)", x.weeks(MIN)).beyond("weeks(MAX)", x.weeks(MAX)).due("now(0)", x.now(0), 0).due("now(1)", x.now(1), 9);
+        e.beyond("weeks(MIN)", x.weeks(MIN)).beyond("weeks(MAX)", x.weeks(MAX)).due("now(0)", x.now(0), 0);
+        e.due("now(1)", x.now(1), 9);
     }
 
     private static void weeksState() {
@@ -502,7 +494,8 @@ public final class TriedOnEdgesTest {
         e.due("now(0)", x.now(0), 9939).due("weeks(60), to 9999", x.weeks(60), 0).due("now(0)", x.now(0), 9999);
         x.hat(0);
         x.fresh(0, 0, 9);
-        e.due("weeks(1)", x.weeks(1), Due.STATE).due("weeks(60)", x.weeks(60), Due.STATE).beyond("weeks(61), asked first", x.weeks(61));
+        e.due("weeks(1)", x.weeks(1), Due.STATE).due("weeks(60)", x.weeks(60), Due.STATE);
+        e.beyond("weeks(61), asked first", x.weeks(61));
         e.beyond("weeks(0)", x.weeks(0)).due("now(0)", x.now(0), 9999).due("told(0, 0), no WEEK went", x.told(0, 0), 9);
         x.undo();
         x.weeks(1);
@@ -527,11 +520,15 @@ public final class TriedOnEdgesTest {
             y.head(ALL);
             y.mind(d, 2, 9999);
         }
-        e.due("now(1), the most", y.now(1), 864).due("now(2)", y.now(2), ALL).due("now(3)", y.now(3), ALL).due("now(5)", y.now(5), 59994);
+        e.due("now(1), the most", y.now(1), 864).due("now(2)", y.now(2), ALL).due("now(3)", y.now(3), ALL);
+        e.due("now(5)", y.now(5), 59994);
         HeadHats z = new HeadHats();
         for (int what = 0; what < 6; what++) {
             e.due("now(" + what + "), of nothing", z.now(what), 0);
         }
+        z.hat(0);
+        z.fresh(0, 11, 1);
+        e.due("now(1), of FRESH 1", z.now(1), 1).due("now(2)", z.now(2), 2048);
     }
 
     private static void nowBeyond() {
@@ -550,7 +547,8 @@ public final class TriedOnEdgesTest {
         x.weeks(1);
         e.due("on(1, 1, 1), from WEEK 1", x.on(1, 1, 1), 16);
         HeadHats y = Due.shopOf("hat holds 31;moths");
-        e.due("on(0, 1, 0), with MOTHS", y.on(0, 1, 0), 27).due("on(0, 2, 0)", y.on(0, 2, 0), 25).due("on(0, 3, 0)", y.on(0, 3, 0), 17);
+        e.due("on(0, 1, 0), with MOTHS", y.on(0, 1, 0), 27).due("on(0, 2, 0)", y.on(0, 2, 0), 25);
+        e.due("on(0, 3, 0)", y.on(0, 3, 0), 17);
         e.due("on(0, 4, 0)", y.on(0, 4, 0), 17).due("on(0, 3, 1)", y.on(0, 3, 1), 12);
     }
 
@@ -581,9 +579,12 @@ public final class TriedOnEdgesTest {
     private static void onBeyond() {
         Edge e = Edge.promise(21, "BEYOND.");
         HeadHats x = Due.shopOf("hat;hat");
-        e.beyond("on(2, 0, 0)", x.on(2, 0, 0)).beyond("on(-1, 0, 0)", x.on(-1, 0, 0)).beyond("on(MIN, 0, 0)", x.on(MIN, 0, 0)).beyond("on(MAX, 0, 0)", x.on(MAX, 0, 0));
-        e.beyond("on(0, 61, 0)", x.on(0, 61, 0)).beyond("on(0, -1, 0)", x.on(0, -1, 0)).beyond("on(0, MIN, 0)", x.on(0, MIN, 0)).beyond("on(0, MAX, 0)", x.on(0, MAX, 0));
-        e.beyond("on(0, 0, 2)", x.on(0, 0, 2)).beyond("on(0, 0, -1)", x.on(0, 0, -1)).beyond("on(0, 0, MIN)", x.on(0, 0, MIN)).beyond("on(0, 0, MAX)", x.on(0, 0, MAX));
+        e.beyond("on(2, 0, 0)", x.on(2, 0, 0)).beyond("on(-1, 0, 0)", x.on(-1, 0, 0)).beyond("on(MIN, 0, 0)", x.on(MIN, 0, 0));
+        e.beyond("on(MAX, 0, 0)", x.on(MAX, 0, 0));
+        e.beyond("on(0, 61, 0)", x.on(0, 61, 0)).beyond("on(0, -1, 0)", x.on(0, -1, 0)).beyond("on(0, MIN, 0)", x.on(0, MIN, 0));
+        e.beyond("on(0, MAX, 0)", x.on(0, MAX, 0));
+        e.beyond("on(0, 0, 2)", x.on(0, 0, 2)).beyond("on(0, 0, -1)", x.on(0, 0, -1)).beyond("on(0, 0, MIN)", x.on(0, 0, MIN));
+        e.beyond("on(0, 0, MAX)", x.on(0, 0, MAX));
     }
 
     private static void goneFirst() {
@@ -613,8 +614,10 @@ public final class TriedOnEdgesTest {
     private static void goneBeyond() {
         Edge e = Edge.promise(22, "BEYOND.");
         HeadHats x = Due.shopOf("hat;hat");
-        e.beyond("gone(2, 0)", x.gone(2, 0)).beyond("gone(-1, 0)", x.gone(-1, 0)).beyond("gone(MIN, 0)", x.gone(MIN, 0)).beyond("gone(MAX, 0)", x.gone(MAX, 0));
-        e.beyond("gone(0, 12)", x.gone(0, 12)).beyond("gone(0, -1)", x.gone(0, -1)).beyond("gone(0, MIN)", x.gone(0, MIN)).beyond("gone(0, MAX)", x.gone(0, MAX));
+        e.beyond("gone(2, 0)", x.gone(2, 0)).beyond("gone(-1, 0)", x.gone(-1, 0)).beyond("gone(MIN, 0)", x.gone(MIN, 0));
+        e.beyond("gone(MAX, 0)", x.gone(MAX, 0));
+        e.beyond("gone(0, 12)", x.gone(0, 12)).beyond("gone(0, -1)", x.gone(0, -1)).beyond("gone(0, MIN)", x.gone(0, MIN));
+        e.beyond("gone(0, MAX)", x.gone(0, MAX));
     }
 
     private static void alikeFirst() {
@@ -637,7 +640,8 @@ public final class TriedOnEdgesTest {
     private static void alikeByMoths() {
         Edge e = Edge.promise(23, "In how many WEEKS (0 to 60) ON two HATS HOLD the same first.");
         HeadHats x = Due.shopOf("hat holds 31;hat holds 17;hat holds 21;moths");
-        e.due("alike(0, 1), with MOTHS", x.alike(0, 1), 3).due("alike(1, 0)", x.alike(1, 0), 3).due("alike(1, 2)", x.alike(1, 2), 1);
+        e.due("alike(0, 1), with MOTHS", x.alike(0, 1), 3).due("alike(1, 0)", x.alike(1, 0), 3);
+        e.due("alike(1, 2)", x.alike(1, 2), 1);
         x.moths(0);
         e.due("alike(0, 1), without", x.alike(0, 1), 9);
     }
@@ -646,7 +650,9 @@ public final class TriedOnEdgesTest {
         Edge e = Edge.promise(23, "BEYOND: also one and the same.");
         HeadHats x = Due.shopOf("hat;hat");
         e.beyond("alike(0, 0)", x.alike(0, 0)).beyond("alike(1, 1)", x.alike(1, 1)).beyond("alike(5, 5)", x.alike(5, 5));
-        e.beyond("alike(2, 0)", x.alike(2, 0)).beyond("alike(-1, 0)", x.alike(-1, 0)).beyond("alike(MIN, 0)", x.alike(MIN, 0)).beyond("alike(MAX, 0)", x.alike(MAX, 0));
-        e.beyond("alike(0, 2)", x.alike(0, 2)).beyond("alike(0, -1)", x.alike(0, -1)).beyond("alike(0, MIN)", x.alike(0, MIN)).beyond("alike(0, MAX)", x.alike(0, MAX));
+        e.beyond("alike(2, 0)", x.alike(2, 0)).beyond("alike(-1, 0)", x.alike(-1, 0)).beyond("alike(MIN, 0)", x.alike(MIN, 0));
+        e.beyond("alike(MAX, 0)", x.alike(MAX, 0));
+        e.beyond("alike(0, 2)", x.alike(0, 2)).beyond("alike(0, -1)", x.alike(0, -1)).beyond("alike(0, MIN)", x.alike(0, MIN));
+        e.beyond("alike(0, MAX)", x.alike(0, MAX));
     }
 }
